@@ -2272,6 +2272,8 @@ public final class NoKnot {
      */
     private static final class BowlMaker {
         private static final int LEANS = 19;
+        /** Of each WIDTH a way by each LEAN, and the least of these. */
+        private static final int ROW = LEANS + 1;
         private static final int NO_LEANING = 9;
         private static final int COST_SHIFT = 40;
         private static final int LEAN_BITS = 5;
@@ -2287,6 +2289,10 @@ public final class NoKnot {
         private final int[] high = new int[Basket.MOST_BANDS];
         private final int[] sure = new int[Basket.MOST_BANDS];
         private final int[] sureBehind = new int[Basket.MOST_BANDS];
+        private final int[] trialWidths = new int[LEANS];
+        private final int[] trialCosts = new int[LEANS];
+        private final int[] triedWidths = new int[LEANS];
+        private final int[] triedCosts = new int[LEANS];
         private long[] now = new long[0];
         private long[] next = new long[0];
         private long best;
@@ -2312,20 +2318,21 @@ public final class NoKnot {
                 wishes[b] = row.intAt(b);
             }
             setRanges();
-            bound = greedyCost();
+            bound = costOfTrial();
             narrowRanges();
             makeRoom();
-            Arrays.fill(now, 0, LEANS, 0);
-            int lowest = wide;
-            int highest = wide;
-            for (int b = 0; b < bands; b++) {
-                goOn(b, lowest, highest);
-                lowest = low[b];
-                highest = high[b];
+            emptyNext(0);
+            for (int l = 0; l < LEANS; l++) {
+                goTo(0, widthBy(wide, l, 0), l, 0);
             }
+            for (int b = 1; b < bands; b++) {
+                takeNext();
+                goOn(b);
+            }
+            takeNext();
             best = NO_WAY;
-            for (int at = 0; at < LEANS * (highest - lowest + 1) && at < now.length; at++) {
-                best = Math.min(best, now[at]);
+            for (int at = 0; at < rowsOf(bands - 1); at++) {
+                best = Math.min(best, wayAt(at * ROW + LEANS));
             }
         }
 
@@ -2347,27 +2354,37 @@ public final class NoKnot {
             }
         }
 
-        /** One way that can be made: none worse is worth a look. */
-        private int greedyCost() {
-            int width = wide;
-            int lean = NO_LEANING;
-            int cost = 0;
-            for (int b = 0; b < bands; b++) {
-                int about = b == 0 ? LEANS : reach;
-                int bestLean = lean;
-                int least = GREAT;
-                for (int l = Math.max(0, lean - about); l <= Math.min(LEANS - 1, lean + about); l++) {
-                    int off = Math.abs(widthBy(width, l, b) - wishes[b]);
-                    if (off < least) {
-                        least = off;
-                        bestLean = l;
-                    }
-                }
-                lean = bestLean;
-                width = widthBy(width, lean, b);
-                cost += least;
+        /** Of ways that can be made, by each LEAN the one that is best so far: none worse is worth a look. */
+        private int costOfTrial() {
+            for (int l = 0; l < LEANS; l++) {
+                trialWidths[l] = widthBy(wide, l, 0);
+                trialCosts[l] = Math.abs(trialWidths[l] - wishes[0]);
             }
-            return cost;
+            for (int b = 1; b < bands; b++) {
+                for (int l = 0; l < LEANS; l++) {
+                    tryLean(b, l);
+                }
+                System.arraycopy(triedWidths, 0, trialWidths, 0, LEANS);
+                System.arraycopy(triedCosts, 0, trialCosts, 0, LEANS);
+            }
+            int least = trialCosts[0];
+            for (int l = 1; l < LEANS; l++) {
+                least = Math.min(least, trialCosts[l]);
+            }
+            return least;
+        }
+
+        private void tryLean(int b, int l) {
+            int least = GREAT;
+            for (int k = Math.max(0, l - reach); k <= Math.min(LEANS - 1, l + reach); k++) {
+                int width = widthBy(trialWidths[k], l, b);
+                int cost = trialCosts[k] + Math.abs(width - wishes[b]);
+                if (cost < least) {
+                    least = cost;
+                    triedWidths[l] = width;
+                    triedCosts[l] = cost;
+                }
+            }
         }
 
         private int widthBy(int width, int l, int b) {
@@ -2390,48 +2407,73 @@ public final class NoKnot {
             for (int b = 0; b < bands; b++) {
                 most = Math.max(most, high[b] - low[b] + 1);
             }
-            if (now.length < most * LEANS) {
+            if (now.length < most * ROW) {
                 // Twice as much as before at least, so that a run of bowls makes few rows in all.
-                int room = Math.max(most * LEANS, 2 * now.length);
+                int room = Math.max(most * ROW, 2 * now.length);
                 now = new long[room];
                 next = new long[room];
             }
         }
 
-        private void goOn(int b, int lowest, int highest) {
-            Arrays.fill(next, 0, Math.min(next.length, LEANS * (high[b] - low[b] + 1)), NO_WAY);
-            for (int width = lowest; width <= highest; width++) {
-                int at = (width - lowest) * LEANS;
-                for (int l = 0; l < LEANS; l++) {
-                    long way = leastNear(at, l);
-                    if (way != NO_WAY) {
-                        goTo(b, widthBy(width, l, b), l, way);
-                    }
-                }
-            }
+        /** How many WIDTHS are looked at behind a BAND. */
+        private int rowsOf(int b) {
+            return b < 0 || b >= bands ? 0 : high[b] - low[b] + 1;
+        }
+
+        private long wayAt(int at) {
+            return at >= 0 && at < now.length ? now[at] : NO_WAY;
+        }
+
+        private void emptyNext(int b) {
+            Arrays.fill(next, 0, Math.min(next.length, ROW * rowsOf(b)), NO_WAY);
+        }
+
+        private void takeNext() {
             long[] old = now;
             now = next;
             next = old;
         }
 
+        private void goOn(int b) {
+            emptyNext(b);
+            for (int row = 0; row < rowsOf(b - 1); row++) {
+                int at = row * ROW;
+                long least = wayAt(at + LEANS);
+                if (least != NO_WAY) {
+                    goOnFrom(b, low[b - 1] + row, at, least);
+                }
+            }
+        }
+
+        private void goOnFrom(int b, int width, int at, long least) {
+            int leastLean = (int) (least >>> leanShift(b - 1) & 31);
+            for (int l = 0; l < LEANS; l++) {
+                long way = Math.abs(l - leastLean) <= reach ? least : leastNear(at, l);
+                if (way != NO_WAY) {
+                    goTo(b, widthBy(width, l, b), l, way);
+                }
+            }
+        }
+
         private long leastNear(int at, int l) {
             long least = NO_WAY;
-            int last = Math.min(at + Math.min(LEANS - 1, l + reach), now.length - 1);
-            for (int k = at + Math.max(0, l - reach); k <= last; k++) {
-                least = Math.min(least, now[k]);
+            int last = Math.min(LEANS - 1, l + reach);
+            for (int k = Math.max(0, l - reach); k <= last; k++) {
+                least = Math.min(least, wayAt(at + k));
             }
             return least;
         }
 
         private void goTo(int b, int width, int l, long way) {
-            int at = (width - low[b]) * LEANS + l;
-            if (width < low[b] || width > high[b] || at < 0 || at >= next.length) {
+            int row = (width - low[b]) * ROW;
+            if (width < low[b] || width > high[b] || row + LEANS >= next.length) {
                 return;
             }
             long cost = Math.abs(width - wishes[b]);
             long further = way + (cost << COST_SHIFT) + ((long) l << leanShift(b));
             if ((further >>> COST_SHIFT) + sureBehind[b] <= bound) {
-                next[at] = Math.min(next[at], further);
+                next[row + l] = Math.min(next[row + l], further);
+                next[row + LEANS] = Math.min(next[row + LEANS], further);
             }
         }
     }

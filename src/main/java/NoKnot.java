@@ -2231,7 +2231,7 @@ public final class NoKnot {
             least = GREAT;
             // Turning the whole ring changes no difference: rod 0 lies first in the first order.
             order[0] = 0;
-            putFrom(1, 1, size == 2 ? differenceAt(0) : 0);
+            putFrom(1, 1, 0);
         }
 
         private void putFrom(int place, int used, int worst) {

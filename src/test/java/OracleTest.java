@@ -19,7 +19,7 @@ public final class OracleTest {
             hands();
         }
         for (int k = 0; k < 40; k++) evens();
-        for (int k = 0; k < 200; k++) bowls(k);
+        for (int k = 0; k < 600; k++) bowls(k);
         for (int k = 0; k < 20; k++) faults();
         steps();
         CHECK.end();
@@ -329,7 +329,7 @@ public final class OracleTest {
         NoKnot x = new NoKnot();
         Check.basket(x, s.toString());
         Check.row(x, 3, 1, wishes);
-        int d = from(0, below(2) == 0 ? 18 : 3);
+        int d = from(0, below(3) == 0 ? 18 : 5);
         int[] want = Oracle.of(s.toString()).bowl(wishes, d);
         CHECK.is("bowl " + s + " d " + d, x.bowl(3, d, -1), want[bands]);
         for (int b = 0; b < bands; b++) CHECK.is("bowl " + b + " " + s + " d " + d, x.bowl(3, d, b), want[b]);

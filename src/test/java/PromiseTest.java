@@ -534,6 +534,9 @@ public final class PromiseTest {
 
     private static void learner() {
         NoKnot x = small();
+        // The first DRAW of seed 1 is 16838, 38 modulo 100.
+        is("23 below c", x.learner(0, 1, 39, 0), 7);
+        is("23 not below c", x.learner(0, 1, 38, 0), 6);
         int[][] wants = {{0, 30, 5, 9, 2}, {1, 10, 0, 0, -1}, {42, 50, 12, 9, 2}, {5, 0, 0, 0, -1}, {5, 100, 16, 8, 2}};
         for (int[] w : wants) {
             for (int what = 0; what < 3; what++) is("23 learner " + w[0], x.learner(0, w[0], w[1], what), w[2 + what]);
@@ -602,6 +605,11 @@ public final class PromiseTest {
         // 1 before, 3 or 4 behind, to both sides.
         is("25 strokes", x.find(5), 4);
         is("25 behind", x.find(2), 3);
+        Check.wish(x, "1...;.2..;..3.;...4;");
+        // Four weavers: from 0 to the right, 3 or 4 behind; to the left the second one lies elsewhere.
+        is("25 four weavers", x.find(0), 4);
+        is("25 four weavers", x.find(5), 2);
+        for (int j = 0; j < 4; j++) is("25 four kinds", x.find(10 + j), 1 + j);
         is("25 all over", Check.wish(x, "5555;"), 1);
         is("25 before 4, behind any, from any, both", x.find(5), 32);
         is("25 before", x.find(1), 4);
@@ -659,6 +667,14 @@ public final class PromiseTest {
         Check.print(x, "uuuu;");
         int[] one = {1, 1, 1, 3, 0, 0};
         for (int what = 0; what < 6; what++) is("28 one mistake " + what, x.nearest(0, what), one[what]);
+        Check.print(x, "uuou;uouu;ouuu;uuuo;");
+        // One weaver from 2 to the left that falls back by one each round.
+        int[] left = {0, 1, 1, 4, 2, 1};
+        for (int what = 0; what < 6; what++) is("28 left " + what, x.nearest(0, what), left[what]);
+        Check.print(x, "oouu;uoou;uuoo;ouuo;");
+        // Two weavers that lie the other way round each second row; four could do it, too.
+        int[] two = {0, 2, 2, 4, 0, 0};
+        for (int what = 0; what < 6; what++) is("28 two weavers " + what, x.nearest(0, what), two[what]);
         int[][] wrong = {{2, 0}, {-1, 0}, {0, 6}, {0, -1}};
         for (int[] w : wrong) is("28 none such", x.nearest(w[0], w[1]), -2);
     }
@@ -710,6 +726,11 @@ public final class PromiseTest {
         x = told("stakes 6;" + ROD + BAND);
         is("34 none better", x.hide(0, 0), 0);
         is("34 two all the same", x.hide(0, 1), 2);
+        // By its slips under at 4 and then over up to 24: only a STEP of 4 hides the one join.
+        x = told("stakes 5;rod 24 thick 1 shrinks 0 price 0;band 1 before 4 behind 1 rounds 5 from 0 with 0;"
+                + "slip 0 0 9;slip 0 0 13;slip 0 0 17;slip 0 0 21;");
+        is("34 the greatest overlap", x.hide(0, 0), 20);
+        is("34 none", x.hide(0, 1), 0);
     }
 
     private static void reach() {

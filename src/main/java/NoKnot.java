@@ -1191,6 +1191,7 @@ public final class NoKnot {
         private static final int WORD = 1;
         private static final int NUMBER = 2;
         private static final int SIGN = 3;
+        private static final int MOST_DIGITS = 4;
 
         int faultKind;
         int faultPlace;
@@ -1408,26 +1409,22 @@ public final class NoKnot {
                     end++;
                 }
             } else if (isDigit(sign)) {
-                readNumber();
+                token = NUMBER;
+                value = 0;
+                while (end < length && isDigit(byteAt(end))) {
+                    // Longer ones are a FAULT anyway: the value may not run over.
+                    if (end - start < MOST_DIGITS) {
+                        value = value * 10 + byteAt(end) - '0';
+                    }
+                    end++;
+                }
+                if (end - start > MOST_DIGITS) {
+                    fail(1);
+                }
             } else if (sign == ';') {
                 token = SIGN;
                 end = start + 1;
             } else {
-                fail(1);
-            }
-        }
-
-        private void readNumber() {
-            token = NUMBER;
-            value = 0;
-            while (end < length && isDigit(byteAt(end))) {
-                // Longer ones are a FAULT anyway: the value may not run over.
-                if (end - start < 4) {
-                    value = value * 10 + byteAt(end) - '0';
-                }
-                end++;
-            }
-            if (end - start > 4) {
                 fail(1);
             }
         }

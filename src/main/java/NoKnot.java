@@ -2402,7 +2402,7 @@ public final class NoKnot {
         private void makeRoom() {
             int most = 1;
             for (int b = 0; b < bands; b++) {
-                most = Math.max(most, high[b] - low[b] + 1);
+                most = Math.max(most, rowsOf(b));
             }
             if (now.length < most * ROW) {
                 // Twice as much as before at least, so that a run of bowls makes few rows in all.
@@ -2414,7 +2414,7 @@ public final class NoKnot {
 
         /** How many WIDTHS are looked at behind a BAND. */
         private int rowsOf(int b) {
-            return b < 0 || b >= bands ? 0 : high[b] - low[b] + 1;
+            return b < 0 || b >= bands ? 0 : Math.max(0, high[b] - low[b] + 1);
         }
 
         private long wayAt(int at) {

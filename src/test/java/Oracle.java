@@ -297,7 +297,6 @@ final class Oracle {
 
     int seam(int b, int from) {
         int[] band = bands.get(b + 1);
-        int keep = band[4];
         int alike = 0;
         for (int s = 0; s < stakes; s++) {
             boolean last = inRow(b, rows(b) - 1, s).over;
@@ -305,7 +304,6 @@ final class Oracle {
             while ((((band[5] == 1 ? from - i : from + i) % stakes) + stakes) % stakes != s) i++;
             if (last == isOver(b + 1, 0, i, 0)) alike++;
         }
-        band[4] = keep;
         return alike;
     }
 
@@ -654,21 +652,15 @@ final class Oracle {
 
     int loose() {
         int best = -1;
-        java.math.BigDecimal most = null;
         for (int b = 0; b < bands.size(); b++) {
-            long wet = height(b, false);
-            long slack = wet - height(b, true);
-            // as whole numbers of a common measure
-            boolean more = best == -1;
-            if (!more) {
-                long wet2 = height(best, false);
-                long slack2 = wet2 - height(best, true);
-                more = java.math.BigInteger.valueOf(slack).multiply(java.math.BigInteger.valueOf(wet2))
-                        .compareTo(java.math.BigInteger.valueOf(slack2).multiply(java.math.BigInteger.valueOf(wet))) > 0;
-            }
-            if (more) best = b;
+            if (best == -1 || slackByWet(b, best) > slackByWet(best, b)) best = b;
         }
         return best;
+    }
+
+    /** SLACK of a BAND, over what it and another one have as a common measure. */
+    private long slackByWet(int b, int other) {
+        return (long) (height(b, false) - height(b, true)) * height(other, false);
     }
 
     int hold(int b) {

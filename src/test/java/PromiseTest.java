@@ -1,4 +1,7 @@
-/** For each promise what it says, at ordinary inputs, at its edges and at wrong inputs; worked out by hand. */
+/**
+ * For each promise what it says, at ordinary inputs, at its edges and at wrong inputs; worked out by
+ * hand, but for what hangs on DRAWS (learner, wander), which a script apart from the program told.
+ */
 public final class PromiseTest {
     private static final Check CHECK = new Check("PromiseTest");
 

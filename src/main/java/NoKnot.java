@@ -2271,6 +2271,8 @@ public final class NoKnot {
         private static final int LEANS = 19;
         /** Of each WIDTH a way by each LEAN, and the least of these. */
         private static final int ROW = LEANS + 1;
+        /** No WIDTH is greater than wide 999 and 9 more by each of 40 rounds of each BAND. */
+        private static final int MOST_ROOM = (999 + 9 * 40 * Basket.MOST_BANDS) * ROW;
         private static final int NO_LEANING = 9;
         private static final int COST_SHIFT = 40;
         private static final int LEAN_BITS = 5;
@@ -2406,7 +2408,7 @@ public final class NoKnot {
             }
             if (now.length < most * ROW) {
                 // Twice as much as before at least, so that a run of bowls makes few rows in all.
-                int room = Math.max(most * ROW, 2 * now.length);
+                int room = Math.min(MOST_ROOM, Math.max(most * ROW, 2 * now.length));
                 now = new long[room];
                 next = new long[room];
             }

@@ -10,6 +10,9 @@ final class CrossingEdges {
     private static final String PAIR = "stakes 3;" + ROD + ROD + Edge.band(2, 2, 2, 2, 2, "0 1")
             + Edge.band(1, 1, 2, 3, 0, "1 left") + "slip 0 1 2;";
 
+    /** By STAKES OUU UUO OUU UUO: weaver 1 begins at the last STAKE. */
+    private static final String LEFT = "stakes 3;" + ROD + ROD + Edge.band(2, 1, 2, 2, 0, "0 1 left");
+
     private CrossingEdges() {
     }
 
@@ -201,6 +204,14 @@ final class CrossingEdges {
                 is("row " + row + " at " + s, x.seen(0, row, s, false), want[row].charAt(s) == 'O' ? row % 2 : -1);
             }
         }
+        x = Edge.told(LEFT);
+        String[] lefts = {"OUU", "UUO", "OUU", "UUO"};
+        for (int row = 0; row < 4; row++) {
+            for (int s = 0; s < 3; s++) {
+                is("left, two weavers, row " + row + " at " + s, x.seen(0, row, s, false), lefts[row].charAt(s) == 'O' ? row % 2 : -1);
+            }
+        }
+        x = Edge.told(PAIR);
         for (int row = 0; row < 3; row++) {
             Edge.each("left, row " + row, new long[] {x.seen(1, row, 0, false), x.seen(1, row, 1, false), x.seen(1, row, 2, false)},
                     1, -1, -1);
@@ -265,8 +276,14 @@ final class CrossingEdges {
                 x.overs(Edge.DEEP, 0), x.overs(0, Edge.DEEP));
         is("counted", x.status(0), 8);
         x = Edge.told("stakes 32;" + ROD + Edge.band(4, 4, 4, 40, 0, "0 0 0 0"));
+        // Asked of the last BAND first.
+        NoKnot pair = Edge.told(PAIR);
+        Edge.each("the last one first", new long[] {pair.overs(1, 0), pair.overs(0, 0), pair.overs(0, 2), pair.overs(1, 2)}, 3, 4, 1, 0);
         // 32 is 4 times 8: STAKE 3 is always over by all four, 7 by none.
         Edge.each("of 160 rows", new long[] {x.overs(0, 3), x.overs(0, 7), x.overs(0, 31)}, 160, 0, 0);
+        // A BASKET of one round in its place: what the rows were is no matter.
+        Check.basket(x, "stakes 32;" + ROD + Edge.band(1, 4, 4, 1, 0, "0"));
+        Edge.each("of one row", new long[] {x.overs(0, 3), x.overs(0, 4), x.run(0, 3)}, 1, 0, 1);
     }
 
     private static void run() {
@@ -372,6 +389,10 @@ final class CrossingEdges {
         Edge.each("round 1", new long[] {x.mend(0, 1, 0), x.mend(0, 1, 1), x.mend(0, 1, 2)}, 14, 12, 15);
         Edge.each("left, round 0", new long[] {x.mend(1, 0, 0), x.mend(1, 0, 1), x.mend(1, 0, 2)}, 9, 7, 8);
         Edge.each("the last round", new long[] {x.mend(1, 2, 0), x.mend(1, 2, 1), x.mend(1, 2, 2)}, 3, 1, 2);
+        NoKnot left = Edge.told(LEFT);
+        // To STAKES 0 2 1 by weaver 0, to 2 1 0 by weaver 1.
+        Edge.each("left, two weavers", new long[] {left.mend(0, 0, 0), left.mend(0, 0, 1), left.mend(0, 0, 2), left.mend(0, 1, 0), left.mend(0, 1, 1),
+            left.mend(0, 1, 2)}, 12, 9, 11, 6, 3, 5);
         says(16, "-2: no such BAND, round, STAKE.");
         Edge.all("none such", -2, x.mend(-1, 0, 0), x.mend(2, 0, 0), x.mend(0, -1, 0), x.mend(0, 2, 0), x.mend(1, 3, 0), x.mend(0, 0, -1),
                 x.mend(0, 0, 3), x.mend(0, Edge.FAR, 0), x.mend(0, 0, Edge.FAR), x.mend(Edge.DEEP, 0, 0));
@@ -397,6 +418,12 @@ final class CrossingEdges {
         is("neither the first row of it nor the last one of that", Edge.told("stakes 3;" + ROD + rounds + rounds).seam(0), 0);
         is("one round more", Edge.told("stakes 3;" + ROD + rounds.replace("rounds 2", "rounds 3") + rounds).seam(0), 3);
         is("32 stakes", Edge.told("stakes 32;" + ROD + BAND + BAND).seam(0), 32);
+        // OU .. O by 31 stakes, and one further: alike at STAKE 0 alone.
+        Edge.each("31 stakes", new long[] {Edge.told("stakes 31;" + ROD + BAND + BAND).seam(0),
+            Edge.told("stakes 31;" + ROD + BAND + BAND.replace("from 0", "from 1")).seam(0)}, 31, 1);
+        // The last row of LEFT is UUO.
+        Edge.each("left", new long[] {Edge.told(LEFT + Edge.band(1, 1, 2, 1, 0, "0")).seam(0), Edge.told(LEFT + Edge.band(1, 1, 2, 1, 2, "0")).seam(0),
+            Edge.told(LEFT + Edge.band(1, 1, 2, 1, 2, "0 left")).seam(0)}, 1, 3, 3);
         says(17, "SEAM of a BAND. NONE: it is the last; -2.");
         NoKnot x = Edge.told(PAIR);
         Edge.each("bands", new long[] {x.seam(-1), x.seam(0), x.seam(1), x.seam(2)}, -2, 2, -1, -2);
@@ -416,6 +443,8 @@ final class CrossingEdges {
         }
         is("from 1 and from 3", Edge.told("stakes 4;" + ROD + BAND + BAND).turn(0), 1);
         is("from all", Edge.told("stakes 3;" + ROD + BAND + BAND.replace("before 1", "before 4")).turn(0), 0);
+        is("31 stakes, from 1 and from 30", Edge.told("stakes 31;" + ROD + BAND + BAND).turn(0), 1);
+        is("behind a left one", Edge.told(LEFT.replace("from 0", "from 1") + Edge.band(1, 1, 2, 1, 0, "0")).turn(0), 1);
         NoKnot moved = Edge.told("stakes 4;" + ROD + BAND.replace("from 0", "from 1") + BAND + "slip 1 0 0;");
         // UOUO, and by its slip UOUO from 0, too.
         is("with slips", moved.turn(0), 1);
@@ -438,6 +467,9 @@ final class CrossingEdges {
         Edge.each("stakes less 1", new long[] {x.spiral(0, 0, 0), x.spiral(1, 0, 0)}, 3, 1);
         x = Edge.told("stakes 4;" + ROD + Edge.band(1, 1, 1, 3, 0, "0") + "slip 0 0 8;");
         Edge.each("0 ahead of 2, 1 ahead of 3", new long[] {x.spiral(0, 0, 0), x.spiral(0, 0, 1)}, 0, 1);
+        // OOU .. O by 31 stakes: all one less each round.
+        x = Edge.told("stakes 31;" + ROD + Edge.band(2, 2, 1, 2, 0, "0 0") + Edge.band(2, 2, 1, 2, 0, "0 0 left"));
+        Edge.each("31 stakes", new long[] {x.spiral(0, 0, 0), x.spiral(0, 1, 0), x.spiral(1, 0, 0), x.spiral(1, 1, 0)}, 30, 30, 1, 1);
         says(19, "SPIRAL of a BAND's weaver j behind round r. NONE: by none; -2: no such BAND, weaver, round (ROUNDS less 2 at most).");
         x = Edge.told("stakes 3;" + ROD + Edge.band(1, 1, 1, 2, 0, "0") + BAND + Edge.band(4, 1, 1, 40, 0, "0 0 0 0"));
         is("OUO to UOU", x.spiral(0, 0, 0), -1);

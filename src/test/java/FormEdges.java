@@ -169,6 +169,11 @@ final class FormEdges {
         Edge.each("to 1", bowled(leaning(361, 40, ""), 0, 1), 0, -9);
         Edge.each("to 2", bowled(leaning(362, 40, ""), 0, 1), 1, -9);
         Edge.each("1 at least", bowled(leaning(5, 1, ""), 0, 2), 0, -3);
+        // From 100 the second one comes to 109 or 91 by 9 or -9 alone, to 110 or 90 only if the first one leans.
+        Edge.each("of the second BAND, out", bowled(leaning(100, 1, "", ""), 18, 100, 109), 0, 0, 9);
+        Edge.each("of the second BAND, 10 out", bowled(leaning(100, 1, "", ""), 18, 100, 110), 1, 0, 9);
+        Edge.each("of the second BAND, in", bowled(leaning(100, 1, "", ""), 18, 100, 91), 0, 0, -9);
+        Edge.each("of the second BAND, 10 in", bowled(leaning(100, 1, "", ""), 18, 100, 90), 1, -1, -9);
         Edge.each("what the BANDS' LEANS are is no matter", bowled(leaning(100, 1, " out 9"), 0, 100), 0, 0);
     }
 
@@ -180,8 +185,29 @@ final class FormEdges {
         // 91 and then 100: of one that differs by 1 the first is the lesser LEAN of BAND 0.
         int[][] ups = {{18, 0, -9, 9}, {17, 1, -9, 8}, {0, 9, 0, 0}};
         for (int[] w : ups) Edge.each("up, d " + w[0], bowled(leaning(100, 1, "", ""), w[0], 91, 100), w[1], w[2], w[3]);
+        // 99 and 101 are 1 from 100.
+        Edge.each("d 0, one in", bowled(leaning(100, 1, "", ""), 0, 100, 99), 1, 0, 0);
+        Edge.each("d 1, one in", bowled(leaning(100, 1, "", ""), 1, 100, 99), 0, 0, -1);
+        Edge.each("d 0, one out", bowled(leaning(100, 1, "", ""), 0, 100, 101), 1, 0, 0);
+        Edge.each("d 1, one out", bowled(leaning(100, 1, "", ""), 1, 100, 101), 0, 0, 1);
+        for (int d = 0; d <= 18; d++) byAllLeans(d);
         Edge.each("neighbours alone", bowled(leaning(100, 1, "", "", ""), 9, 109, 109, 100), 0, 9, 0, -9);
         Edge.each("less than they need", bowled(leaning(100, 1, "", "", ""), 8, 109, 109, 100), 2, 8, 0, -8);
+    }
+
+    /** Each row of LEANS is tried; the best way to a WIDTH isn't always the one that can go on. */
+    private static void byAllLeans(int d) {
+        int[][] rounds = {{1, 1, 2, 2}, {22, 3, 31, 39}, {1, 27, 25}};
+        int[] wide = {236, 234, 53};
+        long[][] wishes = {{238, 238, 252, 235}, {234, 207, 364, 11}, {54, 297, 322}};
+        for (int k = 0; k < wide.length; k++) {
+            StringBuilder text = new StringBuilder("stakes 3;" + ROD + "wide " + wide[k] + ";");
+            for (int r : rounds[k]) text.append(Edge.band(1, 1, 1, r, 0, "0"));
+            int[] best = Oracle.of(text.toString()).bowl(wishes[k], d);
+            long[] got = bowled(Edge.told(text.toString()), d, wishes[k]);
+            is("differences, d " + d, got[0], best[best.length - 1]);
+            for (int b = 0; b + 1 < best.length; b++) is("LEAN of " + b + ", d " + d, got[b + 1], best[b]);
+        }
     }
 
     private static void bowlFirst() {
@@ -301,6 +327,14 @@ final class FormEdges {
         is("32 moves", closing(32, most), 1);
         most[31] = 31;
         is("the last STAKE otherwise", closing(32, most), 0);
+        // Two go to STAKE 31, none to STAKE 1.
+        most[31] = 1;
+        most[0] = 31;
+        is("the first STAKE to the last one", closing(32, most), 0);
+        // Two go to STAKE 0, none to STAKE 31.
+        most[0] = 1;
+        most[30] = 2;
+        is("round to the first one", closing(32, most), 0);
     }
 
     private static void closes() {
@@ -337,6 +371,11 @@ final class FormEdges {
         Edge.each("two moves by 4", new long[] {Edge.told("stakes 4;").border(2, 3, 0), Edge.told("stakes 4;").border(2, 3, 1)}, 5, 2);
         // All that go elsewhere by four: nine.
         Edge.each("four moves by 4", new long[] {Edge.told("stakes 4;").border(4, 3, 0), Edge.told("stakes 4;").border(4, 3, 2)}, 9, 1111);
+        // By 9 stakes three moves go to other rests by 3 each, and there are two of each rest: 6 times 8.
+        is("three moves by 9", Edge.told("stakes 9;").border(3, 6, 0), 48);
+        // By 12 stakes likewise by 4: of rests 0 to 3 there are 1, 2, 2, 1.
+        Edge.each("four moves by 12 and by 7", new long[] {Edge.told("stakes 12;").border(4, 6, 0), Edge.told("stakes 32;").border(4, 6, 0),
+            Edge.told("stakes 7;").border(4, 6, 0)}, 130, 130, 26);
         // 5 and 7 don't go with 2: only like moves close.
         Edge.each("two moves by 5 and by 7", new long[] {Edge.told("stakes 5;").border(2, 4, 0), Edge.told("stakes 7;").border(2, 6, 0)}, 4, 6);
     }
@@ -414,6 +453,10 @@ final class FormEdges {
         is("counted", x.status(0), 6);
         x.ways(0, -1);
         Edge.each("told no more", new long[] {x.taught(0), x.taught(1), x.taught(2), x.taught(-1)}, -2, -1, 1, 0);
+        x = new NoKnot();
+        x.ways(0, 1);
+        x.ways(7, 2);
+        Edge.each("the last by the first", new long[] {x.taught(7), x.taught(-1), x.ways(0, -1), x.taught(7), x.taught(-1)}, 0, 2, 1, -1, 0);
     }
 
     // ---- promise 50
@@ -459,19 +502,26 @@ final class FormEdges {
         Edge.each("none by one", fits(x, 1, 0, 1000, 1), -1, -1, 0);
         Edge.each("one", fits(x, 1, 0, 999, 1), 2000, 2000, 1);
         is("NONE isn't counted", x.status(0), 0);
-        for (int w = 1; w <= 1500; w += 7) {
-            int least = -1;
-            int greatest = -1;
-            int many = 0;
-            for (int v = 1; v <= 2000; v++) {
-                int more = v * 90 / 100 - w;
-                if (more < 1 || more > 3) continue;
-                least = many == 0 ? v : least;
-                greatest = v;
-                many++;
-            }
-            Edge.each("w " + w, fits(kinds(), 2, 0, w, 3), least, greatest, many);
+        for (int shrinks : new int[] {0, 1, 10, 33, 49, 50}) {
+            for (int w = 1; w <= 1500; w += 7) byAllWidths(shrinks, w, 1 + w % 3);
+            byAllWidths(shrinks, 99, 1);
+            byAllWidths(shrinks, 1500, 99);
         }
+    }
+
+    private static void byAllWidths(int shrinks, int w, int play) {
+        int least = -1;
+        int greatest = -1;
+        int many = 0;
+        for (int v = 1; v <= 2000; v++) {
+            int more = v * (100 - shrinks) / 100 - w;
+            if (more < 1 || more > play) continue;
+            least = many == 0 ? v : least;
+            greatest = v;
+            many++;
+        }
+        NoKnot x = Edge.told("rod 2 thick 1 shrinks " + shrinks + " price 0;" + ROD);
+        Edge.each("shrinks " + shrinks + ", w " + w, fits(x, 0, 1, w, play), least, greatest, many);
     }
 
     private static void lidRefused() {

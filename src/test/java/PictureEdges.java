@@ -138,6 +138,14 @@ final class PictureEdges {
         Edge.each("2 and 4 ahead of 4 and 4", found(wished(8, "0000....;")), 1, 2, 4, 1, 1, 6);
         Edge.each("4 and 4", found(wished(8, "0000....;0000....;")), 1, 4, 4, 0, 0, 2);
         Edge.each("4 and 4 from the last stake", found(wished(8, "000....0;000....0;")), 1, 4, 4, 2, 1, 2);
+        // From 4, 12, 20, 28 and from 7, 15, 23, 31 to the left: the last STROKE of all is one of them.
+        Edge.each("the last STROKE of 32 stakes", found(wished(32, "....0000".repeat(4) + ";")), 1, 4, 4, 4, 0, 8);
+        NoKnot last = printed(32, "uuuuoooo".repeat(4) + ";");
+        Edge.each("printed", new long[] {last.reads(0, 0), last.reads(0, 1), last.reads(1, 0), last.reads(1, 1)}, 8, 4, 8, 4);
+        // 31 stakes: OU .. O to the right from 0, to the left from 30.
+        Edge.each("31 stakes", found(wished(31, "0." .repeat(15) + "0;")), 1, 1, 1, 0, 0, 2);
+        last = printed(31, "ou".repeat(15) + "o;");
+        Edge.each("printed", new long[] {last.reads(0, 0), last.reads(0, 1), last.reads(1, 0), last.nearest(1, 0)}, 2, 1, 0, 1);
     }
 
     private static void beyondStrokes() {
@@ -193,6 +201,9 @@ final class PictureEdges {
         says(0, "and some KINDS, one for each weaver, are SEEN so outside (KINDS need not be told in THE BASKET;"
                 + " a weaver that goes OVER nowhere: 0).");
         is("one sign is another KIND", wished(4, "1.2.;").find(5), 0);
+        is("one sign of the first round", wished(4, "1.2.;2.2.;").find(5), 0);
+        is("one sign of the last round", wished(4, "2.2.;1.2.;").find(5), 0);
+        is("one sign of the first round of two weavers", wished(4, "1.2.;.3.3;2.2.;.3.3;").find(5), 0);
         is("one KIND", wished(4, "2.2.;").find(5), 4);
         is("another KIND in the next round", wished(4, "1.1.;2.2.;").find(5), 0);
         is("of another weaver", wished(4, "1.1.;.2.2;").find(0), 2);

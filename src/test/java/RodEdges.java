@@ -303,6 +303,8 @@ final class RodEdges {
         Edge.all("MISSING", -6, x.plait(1, 2, 0), x.plait(3, 1, 0), x.plait(2, 10, 18));
         Edge.all("m", -3, x.plait(0, 1, 0), x.plait(0, 10, 0), x.plait(0, 1, 18), x.plait(0, Edge.FAR, 0), x.plait(0, Edge.DEEP, 1));
         Edge.each("counted", new long[] {x.status(0), x.status(3), x.status(1)}, 11, 3, 5);
+        Edge.each("m of no numbers", new long[] {Edge.row().plait(0, 1, 0), Edge.row().plait(0, 2, 0), Edge.row().plait(0, 9, 1), Edge.row().plait(0, 10, 1)},
+                -3, 1, 0, -3);
         Edge.each("just there", new long[] {x.plait(0, 2, 0), x.plait(0, 9, 1), x.plait(0, 2, 10), x.plait(0, 9, 18)}, 2, 1, 1, 8);
         Edge.all("a number", -3, Edge.row(1).plait(0, 2, 0), Edge.row(-2).plait(0, 2, 1), Edge.row(0, 1).plait(0, 2, 10), Edge.row(8).plait(0, 9, 0),
                 Edge.row(-9).plait(0, 9, 0), Edge.row(1L << 32).plait(0, 9, 0), Edge.row(Long.MIN_VALUE).plait(0, 9, 0), Edge.row(2).plait(0, 2, 12));
@@ -330,6 +332,11 @@ final class RodEdges {
         Edge.each("six, two thick", evened(Edge.row(9, 9, 1, 1, 1, 1)), 0, 0, 2, 3, 1, 4, 5, -1, -1);
         Edge.each("eight alike", evened(Edge.row(1, 1, 1, 1, 1, 1, 1, 1)), 0, 0, 1, 2, 3, 4, 5, 6, 7);
         Edge.each("eight, two thick", evened(Edge.row(99, 99, 1, 1, 1, 1, 1, 1)), 0, 0, 2, 3, 4, 1, 5, 6, 7);
+        NoKnot x = Edge.row(1, 1, 1, 1, 1, 1, 1, 1);
+        Check.row(x, 1, 0, 7, 3);
+        Check.row(x, 2, 0, 1, 9, 1, 9);
+        Edge.each("one behind the other", new long[] {x.even(0, -1), x.even(1, -1), x.even(1, 1), x.even(1, 2), x.even(2, -1), x.even(2, 3), x.even(0, 7)},
+                0, 4, 1, -1, 0, 3, 7);
         Edge.each("eight, the last two thick", evened(Edge.row(1, 1, 1, 1, 1, 1, 99, 99)), 0, 0, 1, 2, 6, 3, 4, 5, 7);
     }
 

@@ -239,6 +239,11 @@ final class RowEdges {
         x.ways(0, 3);
         Edge.each("no WISH, PRINT, HANDS", new long[] {x.find(5), x.reads(0, 0), x.restore(0), x.count(8), x.find(5), x.count(9), x.reads(0, 0), x.ways(0, -1)},
                 6, 6, 0, -1, -5, -1, -5, -1);
+        x = Edge.told("stakes 4;");
+        Check.wish(x, "1.1.;.2.2;");
+        x.image(0);
+        Check.wish(x, "1.1.;.2.1;");
+        Edge.each("KINDS of the WISH", new long[] {x.find(10), x.restore(0), x.find(10), x.find(11), x.find(5)}, -1, 0, 1, 2, 4);
         x = new NoKnot();
         x.image(1);
         Check.basket(x, SMALL);

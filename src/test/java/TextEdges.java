@@ -91,6 +91,7 @@ final class TextEdges {
             if (token.equals(";")) Edge.told(text);
             else Edge.faulty(text, 2, text.length());
         }
+        for (int k = 0; k < TOKENS.length; k++) oneLetterOtherwise(k);
         Edge.faulty("slip 0 0 0;", 3, 5);
         String band = "stakes 3;" + ROD + BAND;
         Edge.told(band + "slip 0 0 0;");
@@ -116,6 +117,20 @@ final class TextEdges {
         Edge.faulty(ahead + (high + 1) + behind, 3, ahead.length());
         Edge.faulty(ahead + "9999" + behind, 3, ahead.length());
         Edge.faulty(ahead + "-1" + behind, 1, ahead.length());
+    }
+
+    private static void oneLetterOtherwise(int k) {
+        String token = TOKENS[k];
+        String text = "";
+        for (int a = 0; a < k; a++) text += TOKENS[a] + " ";
+        if (!Character.isLetter(token.charAt(0))) return;
+        for (int c = 0; c < token.length(); c++) {
+            char other = token.charAt(c) == 'z' ? 'a' : (char) (token.charAt(c) + 1);
+            Edge.faulty(text + token.substring(0, c) + other + token.substring(c + 1), 2, text.length());
+        }
+        Edge.faulty(text + token.substring(1), 2, text.length());
+        Edge.faulty(text + token.substring(0, token.length() - 1), 2, text.length());
+        Edge.faulty(text + token + "s", 2, text.length());
     }
 
     /** One number of a slip less is seen at the sign alone. */
@@ -230,6 +245,10 @@ final class TextEdges {
             is("slips", Edge.told(one + "slip 0 0 2;".repeat(many)).count(3), many);
         }
         Edge.faulty(one + "slip 0 0 2;".repeat(9), 4, one.length() + 88);
+        NoKnot x = Edge.told(two + "slip 1 3 1279;slip 0 0 31;slip 1 0 0;");
+        Edge.each("of BANDS", new long[] {x.band(0, 6), x.band(1, 6)}, 1, 2);
+        Edge.each("it is there", new long[] {x.crossing(0, 0, 30, 1), x.crossing(0, 0, 31, 1), x.crossing(1, 0, 0, 1), x.crossing(1, 3, 0, 1),
+            x.crossing(1, 3, 1278, 1), x.crossing(1, 3, 1279, 1)}, 1, 1, 0, 1, 1, 1);
     }
 
     private static void overlapAndWide() {
@@ -459,6 +478,15 @@ final class TextEdges {
         is("a shorter one", Check.basket(x, "wide 8;"), 1);
         Edge.each("all that was is gone", new long[] {x.count(0), x.count(1), x.count(2), x.count(3), x.count(4), x.count(5)},
                 0, 0, 0, 0, 2, 8);
+        x = Edge.told("overlap 3;wide 7;");
+        Check.basket(x, "overlap 4;wide 8;?");
+        is("nothing is told", Check.basket(x, "stakes 3;"), 1);
+        Edge.each("as without", new long[] {x.count(4), x.count(5)}, 2, 100);
+        // OUO, and then OOU: what was asked of the one ahead is no matter.
+        x = Edge.told("stakes 3;" + ROD + BAND);
+        is("HOLD", x.hold(0), 200);
+        Check.basket(x, "stakes 3;" + ROD + BAND.replace("before 1", "before 2"));
+        Edge.each("of the new one", new long[] {x.hold(0), x.crossing(0, 0, 1, 1), x.crossing(0, 0, 2, 1)}, 100, 1, 0);
         says(3, "(that there was stays with a FAULT).");
         x = Edge.told("stakes 4;" + ROD + BAND + "slip 0 0 3;overlap 3;wide 7;");
         for (String bad : new String[] {"?", "x", "stakes 2;", "stakes 5;" + ROD + ROD + BAND + "stakes 5;"}) {

@@ -195,11 +195,11 @@ final class FormEdges {
         Edge.each("less than they need", bowled(leaning(100, 1, "", "", ""), 8, 109, 109, 100), 2, 8, 0, -8);
     }
 
-    /** Each row of LEANS is tried; the best way to a WIDTH isn't always the one that can go on. */
+    /** Each row of LEANS is tried; the best way to a WIDTH isn't always the one that can go on (9 and -9, too). */
     private static void byAllLeans(int d) {
-        int[][] rounds = {{1, 1, 2, 2}, {22, 3, 31, 39}, {1, 27, 25}};
-        int[] wide = {236, 234, 53};
-        long[][] wishes = {{238, 238, 252, 235}, {234, 207, 364, 11}, {54, 297, 322}};
+        int[][] rounds = {{1, 1, 2, 2}, {22, 3, 31, 39}, {1, 27, 25}, {6, 2, 30, 14}, {20, 2, 35, 26}};
+        int[] wide = {236, 234, 53, 46, 816};
+        long[][] wishes = {{238, 238, 252, 235}, {234, 207, 364, 11}, {54, 297, 322}, {94, 106, 376, 502}, {736, 738, 423, 189}};
         for (int k = 0; k < wide.length; k++) {
             StringBuilder text = new StringBuilder("stakes 3;" + ROD + "wide " + wide[k] + ";");
             for (int r : rounds[k]) text.append(Edge.band(1, 1, 1, r, 0, "0"));

@@ -201,6 +201,8 @@ final class PictureEdges {
         says(0, "and some KINDS, one for each weaver, are SEEN so outside (KINDS need not be told in THE BASKET;"
                 + " a weaver that goes OVER nowhere: 0).");
         is("one sign is another KIND", wished(4, "1.2.;").find(5), 0);
+        Edge.each("KIND 0 and another one", new long[] {wished(4, "0.1.;").find(5), wished(4, "1.0.;").find(5), wished(4, "0.0.;1.1.;").find(5),
+            wished(4, "1.1.;0.0.;").find(5), wished(4, "0.0.;0.0.;").find(5)}, 0, 0, 0, 0, 4);
         is("one sign of the first round", wished(4, "1.2.;2.2.;").find(5), 0);
         is("one sign of the last round", wished(4, "2.2.;1.2.;").find(5), 0);
         is("one sign of the first round of two weavers", wished(4, "1.2.;.3.3;2.2.;.3.3;").find(5), 0);

@@ -7,7 +7,7 @@ import java.util.regex.Pattern;
 
 /**
  * The document once more, call by call, with all that a run keeps: THE TAPE, IMAGES, ROWS OF NUMBERS, what was
- * refused. Each answer is looked for in the slowest way that its sentence tells. Not written by the Oracle's reader.
+ * refused. Each answer is looked for in the slowest way that its sentence tells; nothing is shared with the Oracle.
  */
 final class Model {
     private static final Pattern TOKEN = Pattern.compile("[a-z]+|[0-9]+|;");
